@@ -105,7 +105,7 @@ public final class ModelTest {
             case 4: look("as(" + a + ", " + n + ")", x.as(a, n), model.as(a, n)); break;
             case 5: case 6: goOne(a); break;
             case 7: sellOne(a, b); break;
-            case 8: case 9: look("quarrel(" + a + ", " + b + ", " + yes + ")", x.quarrel(a, b, yes), model.quarrel(a, b, yes)); break;
+            case 8: case 9: quarrelOf(a, b, yes); break;
             case 10: look("written(" + a + ", " + company + ")", x.written(a, company), model.written(a, company)); break;
             case 11: movesOf(a); break;
             case 12: daysOf(some(1 << model.count(0))); break;
@@ -128,6 +128,10 @@ public final class ModelTest {
         int which = some(2);
         look("sell(" + person + ", " + which + ", " + to + ")",
             x.sell(person, which, to), model.sell(person, which, to));
+    }
+
+    private void quarrelOf(int a, int b, boolean yes) {
+        look("quarrel(" + a + ", " + b + ", " + yes + ")", x.quarrel(a, b, yes), model.quarrel(a, b, yes));
     }
 
     private void movesOf(int person) {

@@ -264,8 +264,9 @@ public final class PromisesTest {
         is.due("8: from 3", x.go(2, 1), 3);
         is.due("8: to where he is", x.go(2, 1), 1);
         is.due("8: there", x.about(2, 3), 1);
+        is.due("8: back to 0", x.go(1, 0), 0);
         is.due("8: others stay", x.about(0, 6), 3);
-        is.due("8: often", x.count(3), 3);
+        is.due("8: often", x.count(3), 4);
         is.due("8: room below", x.go(0, -1), OUTSIDE);
         is.due("8: room above", x.go(0, 4), OUTSIDE);
         is.due("8: nobody", x.go(3, 0), UNKNOWN);
@@ -274,7 +275,7 @@ public final class PromisesTest {
             is.due("8: far", x.go(far, 0), UNKNOWN);
             is.due("8: far room", x.go(0, far), OUTSIDE);
         }
-        is.due("8: refused ones are not counted", x.count(3), 3);
+        is.due("8: refused ones are not counted", x.count(3), 4);
     }
 
     private static void sell() {
@@ -393,6 +394,16 @@ public final class PromisesTest {
         movesAre(y, 0, 2, 1, 1, 1, 0, 0);
         is.due("12: nothing went", y.about(0, 3), 3);
         movesAre(y, 2, 1, 1, 2, 1, 0, 0);
+        SpeltByFriends v = Checks.townOf("r44,p00,p00,p00,p00");
+        v.go(4, 2);
+        v.go(0, 3);
+        movesAre(v, 0, 1, 2, 0, 0, 0, 2);
+        v.go(1, 2);
+        movesAre(v, 0, 1, 3, 2, 0, 0, 3);
+        SpeltByFriends w = Checks.townOf("p22,p00,p00");
+        w.go(2, 3);
+        w.quarrel(1, 2, true);
+        movesAre(w, 0, 1, 0, 0, 0);
         SpeltByFriends z = Checks.townOf("p11,p00");
         z.quarrel(0, 1, true);
         movesAre(z, 0, NONE);
@@ -437,6 +448,9 @@ public final class PromisesTest {
         x.quarrel(1, 0, true);
         daysAre(x, 15, NONE);
         SpeltByFriends y = Checks.townOf("r00,r11,r22,r33,r44");
+        daysAre(y, 1, 1, 1);
+        daysAre(y, 3, 2, 1, 2);
+        daysAre(y, 19, 3, 1, 2, 16);
         daysAre(y, 28, 3, 4, 8, 16);
         is.due("13: four are too many", y.days(15, 0), NONE);
         is.due("13: company of none", y.days(15, 10), NONE);
@@ -594,6 +608,7 @@ public final class PromisesTest {
         x.sell(0, 1, 0);
         x.quarrel(0, 1, true);
         x.hear(0, 1, true);
+        x.hear(1, 3, true);
         x.image();
         long then = x.digest();
         x.go(0, 2);
@@ -603,7 +618,7 @@ public final class PromisesTest {
         x.quarrel(0, 1, false);
         x.quarrel(0, 2, true);
         x.forget();
-        x.hear(0, 1, false);
+        x.hear(2, 5, false);
         x.hear(1, 7, false);
         is.due("20: so often then", x.restore(), 2);
         is.due("20: all is as then", x.digest(), then);
