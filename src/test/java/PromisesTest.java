@@ -663,26 +663,18 @@ public final class PromisesTest {
         }
     }
 
-    private static long mixed(long... numbers) {
-        long h = 983;
-        for (long number : numbers) {
-            h = 31 * h + number;
-        }
-        return h;
-    }
-
     private static void digest() {
         SpeltByFriends x = new SpeltByFriends();
-        is.due("22: of a new one", x.digest(), mixed(0, 0, 0, 0, 0, 0, 0, 0, 0, 0));
+        is.due("22: of a new one", x.digest(), Checks.mixed(0, 0, 0, 0, 0, 0, 0, 0, 0, 0));
         Checks.write(x, "h1");
-        is.due("22: with a page", x.digest(), mixed('h', '1', 0, 0, 0, 0, 0, 0, 2, 0, 0, 0));
+        is.due("22: with a page", x.digest(), Checks.mixed('h', '1', 0, 0, 0, 0, 0, 0, 2, 0, 0, 0));
         Checks.write(x, "1,t00");
         x.town();
         x.quarrel(0, 1, true);
         x.go(1, 2);
         x.hear(1, 3, true);
         x.letter('~');
-        is.due("22: of a town", x.digest(), mixed(
+        is.due("22: of a town", x.digest(), Checks.mixed(
             1, 1, 1, 0, 2, 1, 1, 2, 0, 4, 0, 3,
             4, 0, 0, 2, 1, 0, 2, 2, 1, 2, 10, 2,
             '~',
