@@ -7,6 +7,7 @@ public final class PeopleBoundsTest {
 
     public static void main(String[] args) {
         promise6WhoAndWhat();
+        promise6WrittenOrNot();
         promise6LeastAndMost();
         promise6Wants();
         promise7EachKindAsEach();
@@ -48,6 +49,26 @@ public final class PeopleBoundsTest {
                 is.dueUnchanged("promise 6: asked", busy, y -> Math.min(0, y.about(0, w)), 0);
             }
         }
+    }
+
+    private static void promise6WrittenOrNot() {
+        for (int size = 2; size <= 5; size++) {
+            SpeltByFriends own = States.allOwn(size);
+            SpeltByFriends lost = States.allLost(size);
+            for (int person = 0; person < size; person++) {
+                is.due("promise 6: can be written", own.about(person, 5), 1);
+                is.due("promise 6: can not", lost.about(person, 5), 0);
+            }
+        }
+        SpeltByFriends x = Checks.townOf("p11,r00,h00");
+        is.due("promise 6: with his holder in the room", x.about(0, 5), 1);
+        is.due("promise 6: one too many for a proud one", x.about(1, 5), 0);
+        x.go(2, 3);
+        is.due("promise 6: none too many", x.about(1, 5), 1);
+        is.due("promise 6: a hermit alone in the last room", x.about(2, 5), 1);
+        x.go(1, 3);
+        is.due("promise 6: his holder has left", x.about(0, 5), 0);
+        is.due("promise 6: a hermit with another", x.about(2, 5), 0);
     }
 
     private static void promise6LeastAndMost() {

@@ -31,7 +31,10 @@ final class States {
         x.sell(0, 1, 1);
         x.quarrel(0, 1, false);
         x.quarrel(size - 1, 0, true);
-        x.hear(size - 1, all(size), true);
+        x.forget();
+        x.hear(0, 1, false);
+        x.hear(size - 1, 1 << size - 1, true);
+        x.hear(0, all(size), false);
         x.moves(0, 0);
         x.days(1, 0);
         return x;
