@@ -27,6 +27,7 @@ public final class PromisesTest {
         hear();
         forget();
         holders();
+        holdersByEachHeard();
         holdersByKind();
         invite();
         years();
@@ -528,6 +529,19 @@ public final class PromisesTest {
         is.due("16: what above", x.holders(0, 2), OUTSIDE);
     }
 
+    private static void holdersByEachHeard() {
+        for (int place = 0; place < 6; place++) {
+            SpeltByFriends x = Checks.townOf("p12,p00,p00");
+            for (int i = 0; i < 6; i++) {
+                // With all in the room any holders will do, so this tells nothing of the other.
+                x.hear(i == place ? 0 : 1, i == place ? 1 : 7, true);
+            }
+            is.due("16: alone he was written, as heard at place " + place, x.holders(0, 0), 1);
+            is.due("16: so he holds both", x.holders(0, 1), 0);
+            is.due("16: all holders of the other would do", x.holders(1, 0), 9);
+        }
+    }
+
     private static void holdersByKind() {
         SpeltByFriends x = Checks.townOf("h11,f11,r11,t11");
         x.hear(0, 1, true);
@@ -573,7 +587,11 @@ public final class PromisesTest {
         is.due("18: nobody went", x.count(3), 0);
         is.due("18: all are where they were", x.about(0, 6), 3);
         x.go(0, 1);
-        is.due("18: from where they are", x.years(1, 0, 1), 2);
+        is.due("18: he goes back to room 0", x.years(1, 0, 1), 2);
+        x.go(1, 1);
+        is.due("18: from where they are, the other is elsewhere", x.years(1, 0, 1), 0);
+        is.due("18: from where they are, he goes to the other", x.years(2, 0, 1), 2);
+        is.due("18: from where they are, together", x.years(2, 0, 0), 2);
         is.due("18: the last seed", x.years(1, Integer.MAX_VALUE, 2), 288979989);
         is.due("18: 60", Math.min(0, x.years(60, 1, 0)), 0);
         is.due("18: times below", x.years(0, 1, 0), OUTSIDE);
